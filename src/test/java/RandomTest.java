@@ -55,6 +55,12 @@ public final class RandomTest {
 
     private int person() { return upTo(0, reference.n - 1); }
 
+    /** The later ones: TAKING BACK the first ones leaves nothing that COUNTS. */
+    private int lateRec() {
+        int last = Math.max(0, reference.recs.size() - 1);
+        return random.nextInt(6) == 0 ? rec() : upTo(last / 2, last);
+    }
+
     private int rec() { return upTo(0, Math.max(0, reference.recs.size() - 1)); }
 
     private int dayNow() {
@@ -92,7 +98,7 @@ public final class RandomTest {
             case "strayed": return row(upTo(0, 5), upTo(0, 1));
             case "came": return row(random.nextInt(5) == 0 ? -1 : rec(), upTo(0, 1),
                 random.nextInt(5) == 0 ? -1 : upTo(1, 20), dayNow());
-            case "takeBack": return row(rec(), dayNow());
+            case "takeBack": return row(lateRec(), dayNow());
             case "record": return row(rec(), upTo(0, 7));
             case "share": return row(upTo(0, 2), upTo(0, 1));
             case "bounds": return row(upTo(0, 5), upTo(0, 1), upTo(0, 1));
@@ -119,7 +125,7 @@ public final class RandomTest {
 
     private int sign() {
         if (random.nextInt(30) == 0) return upTo(0, 255);
-        return random.nextInt(3) == 0 ? '?' : "aazb".charAt(random.nextInt(4));
+        return random.nextInt(4) == 0 ? '?' : "aazb".charAt(random.nextInt(style == 3 ? 2 : 4));
     }
 
     private Object[] settings() {
@@ -127,8 +133,9 @@ public final class RandomTest {
         switch (what) {
             case 0: return row(0, upTo(-1, reference.n - 1));
             case 1: return row(1, upTo(1, 7));
-            case 2: return row(2, random.nextInt(3) == 0 ? upTo(0, 99) : Math.min(99, day + 2));
-            case 3: return row(3, upTo(0, random.nextBoolean() ? 9 : 2));
+            // Mostly such that some RECORDS are left to take shares of.
+            case 2: return row(2, random.nextInt(4) == 0 ? upTo(0, 99) : upTo(day, 99));
+            case 3: return row(3, upTo(0, random.nextInt(4) == 0 ? 9 : 1));
             default: return row(what, upTo(0, 9));
         }
     }
