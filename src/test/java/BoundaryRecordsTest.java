@@ -351,7 +351,7 @@ public final class BoundaryRecordsTest {
         x.came(1, 0, 1, 1);
         share(0, 1, 3);
         share(1, 1, 3);
-        share(2, 2 - 1, 2);
+        share(2, 1, 2);
         x.set(3, 3);
         for (int how = 0; how < 3; how++) shareNot(how);
         x.set(3, 0);

@@ -14,6 +14,7 @@ public final class ChainsTest {
         bad();
         followsChanges();
         dense();
+        smallestChances();
         C.end();
     }
 
@@ -218,6 +219,34 @@ public final class ChainsTest {
                 C.due("dense strayed", x.strayed(4, what), due.strayed(4, what));
             }
             C.due("dense strayed 5", x.strayed(5, 1), due.strayed(5, 1));
+        }
+    }
+
+    /**
+     * Chances as small as they get, against Reference: on the way 0, 1, .. 5 there are six times
+     * 3 to go to, or 8, 4, 4, 4, 4 and 2 (each row: whom one is tied to among the later ones).
+     */
+    private static void smallestChances() {
+        int[][][] nets = {
+            {{1, 7, 8}, {2, 7, 8}, {3, 7, 8}, {4, 7, 8}, {5, 7, 8}, {6, 7, 8}},
+            {{1, 2, 3, 4, 5, 6, 7, 8}, {2, 6, 7, 8}, {3, 6, 7, 8}, {4, 6, 7, 8}, {5, 6, 7, 8}, {6, 7}}};
+        for (int[][] net : nets) {
+            x = new ThroughOthers();
+            Reference due = new Reference();
+            x.persons(9);
+            due.persons(9);
+            for (int a = 0; a < net.length; a++) for (int b : net[a]) {
+                x.tie(a, b, true);
+                due.tie(a, b, true);
+            }
+            x.set(0, 0);
+            due.set(0, 0);
+            x.set(1, 7);
+            due.set(1, 7);
+            for (int p = 0; p < 9; p++) for (int what = 0; what < 2; what++) {
+                C.due("small found(" + p + ")", x.found(p, what), due.found(p, what));
+                C.due("small both(6, " + p + ")", x.both(6, p, what), due.both(6, p, what));
+            }
         }
     }
 }
