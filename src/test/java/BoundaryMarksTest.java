@@ -13,6 +13,7 @@ public final class BoundaryMarksTest {
         signAtSomePlace();
         clashRefused();
         twelveAtMost();
+        leastFull();
         fewest();
         fewestOfTwelve();
         fromZero();
@@ -150,6 +151,15 @@ public final class BoundaryMarksTest {
         for (int r = 0; r < 12; r++) x.takeBack(r, 1);
         C.due("12 of 24", x.least(), 1);
         C.due("the last of 24", x.ones(23), 0);
+    }
+
+    private static void leastFull() {
+        C.sentence("AT LEAST. FULL.");
+        for (int n = 0; n <= 24; n++) {
+            seeds(n);
+            for (int r = 0; r < n; r++) x.type(r, 'a' + r);
+            C.due("least of " + n + " that CLASH", x.least(), n <= 12 ? n : -4);
+        }
     }
 
     private static void fewest() {

@@ -13,9 +13,11 @@ public final class BoundaryRecordsTest {
         kindsOfRecords();
         knows();
         bringsThree();
+        cameRefused();
         fullAheadOfNot();
         takenBackAlready();
         takeBackRefused();
+        eachCanBeTakenBack();
         toldUpToThen();
         notTakenBackUpToThen();
         bringerCounts();
@@ -187,6 +189,20 @@ public final class BoundaryRecordsTest {
         C.due("all that were told", x.record(0, 7), 3);
     }
 
+    private static void cameRefused() {
+        C.sentence("A RECORD more: its number. BAD: also a DAY less than the one before");
+        fresh();
+        C.due("number 0", x.came(-1, 1, 7, 30), 0);
+        int[][] bad = {{1, 0, 1, 30}, {-2, 0, 1, 30}, {-1, 2, 1, 30}, {-1, -1, 1, 30}, {-1, 0, 0, 30},
+            {-1, 0, 21, 30}, {-1, 0, -2, 30}, {-1, 0, 1, 29}, {-1, 0, 1, 100}, {-1, 0, 1, -1}};
+        for (int[] b : bad) {
+            C.due("came(" + b[0] + ", " + b[1] + ", " + b[2] + ", " + b[3] + ")", x.came(b[0], b[1], b[2], b[3]), -2);
+            C.due("no RECORD more", x.count(3), 1);
+            C.due("none brought", x.record(0, 7), 0);
+        }
+        C.due("number 1", x.came(0, 0, 1, 30), 1);
+    }
+
     private static void fullAheadOfNot() {
         C.sentence("NOT: its BRINGER has brought 3; FULL, ahead of that.");
         seeds(1);
@@ -227,6 +243,18 @@ public final class BoundaryRecordsTest {
         C.due("two fewer", x.count(4), 22);
         fresh();
         C.due("none is there", x.takeBack(0, 0), -2);
+    }
+
+    private static void eachCanBeTakenBack() {
+        C.sentence("Each can be TAKEN BACK on a DAY.");
+        row(24);
+        for (int r = 23; r >= 0; r--) {
+            C.due("back, from the last on", x.takeBack(r, 23 - r), 1);
+            C.due("those left", x.count(4), r);
+        }
+        row(2);
+        x.takeBack(0, 0);
+        C.due("one that does not COUNT", x.takeBack(1, 0), 1);
     }
 
     private static void toldUpToThen() {
